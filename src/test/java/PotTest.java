@@ -72,6 +72,9 @@ public final class PotTest {
         x.days(1);
         due.is("age stays", x.told(0, 3), 9999);
         due.is("gone of none", x.grams(1), 0);
+        x.set(1, 2, 1);
+        x.days(2);
+        due.is("age of a single one", x.told(1, 3), 2);
     }
 
     /** What is taken goes first, and what wears goes of what is left then. */
@@ -148,6 +151,12 @@ public final class PotTest {
         due.is("a fade that is just all", x.taste(), 38 + 49 + 98 + 76);
         Due.text(x, "fade t - 1");
         due.is("a fade that is all but 1", x.taste(), 38 + 49 + 1 + 98 + 76);
+        OldPot y = new OldPot();
+        y.thing(2, 1);
+        y.set(0, 2, 100);
+        due.is("a taste of 1 that has not faded", y.taste(), 1);
+        y.set(0, 3, 1);
+        due.is("a taste of 1 that has faded", y.taste(), 0);
     }
 
     private static void grams() {

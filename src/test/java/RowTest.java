@@ -172,6 +172,13 @@ public final class RowTest {
         due.is("back()", x.back(), 2);
         due.is("as it was later", all(x).equals(later) ? 1 : 0, 1);
         due.is("as it was first", all(x).equals(was) ? 1 : 0, 0);
+        x.thing(0, 5);
+        x.toss(2, 500);
+        x.days(3);
+        x.back();
+        x.thing(0, 5);
+        due.is("a new thing's amount", x.told(2, 2), 0);
+        due.is("a new thing's age", x.told(2, 3), 0);
     }
 
     private static String all(OldPot x) {

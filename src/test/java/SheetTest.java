@@ -42,6 +42,9 @@ public final class SheetTest {
         due.is("no place", at(x, 3, 23), Due.INDEX);
         due.is("sheet(3, 0, 24)", x.sheet(3, 0, 24), 24);
         due.is("all 0", at(x, 3, 23), 0);
+        x.mark(3, 0, 9);
+        x.sheet(3, 0, 24);
+        due.is("all 0", at(x, 3, 0), 0);
         x.mark(3, 5, 1);
         due.is("refused, it stays", x.sheet(3, 0, -1), Due.SIZE);
         due.is("a place", at(x, 3, 5), 1);
@@ -114,6 +117,15 @@ public final class SheetTest {
         due.is("pour(0)", x.pour(0), 2);
         due.is("below 0", x.told(0, 2), 0);
         due.is("amount of 1", x.told(1, 2), 32767);
+        for (int i = 4; i < 8; i++) {
+            x.thing(0, 5);
+        }
+        for (int k = 0; k < 24; k++) {
+            x.mark(0, k, 7);
+        }
+        due.is("more places than things", x.pour(0), 8);
+        x.mark(0, 1, 32767);
+        x.pour(0);
         x.sheet(2, 0, 0);
         due.is("no places", x.pour(2), 0);
         due.is("amount of 1", x.told(1, 2), 32767);

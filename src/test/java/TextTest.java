@@ -294,6 +294,7 @@ public final class TextTest {
             due.is("why(" + key + ")", x.why(key), Due.NONE);
         }
         Due.text(x, "bill 1");
+        due.is("the first text", x.why(1), 0);
         Due.text(x, "lot 1");
         Due.text(x, "bill 2");
         Due.text(x, "bill 2 2");

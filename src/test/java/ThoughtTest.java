@@ -7,6 +7,7 @@ public final class ThoughtTest {
         tasted();
         steer();
         steerEdges();
+        steerWithSomeIn();
         leastPot();
         nearest();
         thrown();
@@ -70,6 +71,11 @@ public final class ThoughtTest {
         due.is("a long time, not long enough", x.tasted(0), Due.NONE);
         x.set(2, 2, 700);
         due.is("a herb", x.tasted(2), 15);
+        x.pot(1, 10);
+        x.set(0, 2, 1182);
+        due.is("just 300 days", x.tasted(0), 300);
+        x.set(0, 2, 1193);
+        due.is("301 days", x.tasted(0), Due.NONE);
     }
 
     private static void steer() {
@@ -121,6 +127,24 @@ public final class ThoughtTest {
         due.is("a bone with an age", x.steer(11, 0, 2), 11);
         due.is("two differ alike, the thing 0 first", x.steer(2, 0, 0), 0);
         due.is("two differ alike, 0 first", x.steer(2, 0, 1), 0);
+    }
+
+    private static void steerWithSomeIn() {
+        due.part("promise 17, with some in");
+        OldPot x = new OldPot();
+        int[][] in = {{1, 4, 500, 3}, {2, 9, 700, 2}, {0, 5, 400, 0}};
+        for (int i = 0; i < in.length; i++) {
+            x.thing(in[i][0], in[i][1]);
+            x.set(i, 2, in[i][2]);
+            x.set(i, 3, in[i][3]);
+        }
+        int[][] calls = {{100, 2, 1, 850, 101}, {61, 2, 0, 150, 61}, {97, 4, 1, 1000, 60}, {30, 3, 0, 0, 43},
+            {150, 1, 1, 1000, 145}};
+        for (int[] c : calls) {
+            for (int what = 0; what < 3; what++) {
+                due.is("steer(" + c[0] + ", " + c[1] + ", " + what + ")", x.steer(c[0], c[1], what), c[2 + what]);
+            }
+        }
     }
 
     private static void leastPot() {
@@ -206,6 +230,15 @@ public final class ThoughtTest {
         x.mark(0, 2, -3);
         due.is("the second", x.thrown(0, 0), 1);
         due.is("the second", x.thrown(0, 1), 1 + 2 + 15);
+        x.set(2, 1, 9);
+        x.set(2, 2, 5);
+        x.sheet(3, 0, 1);
+        x.mark(3, 0, 90);
+        due.is("505 times 9 / 100, twice", x.thrown(3, 1), 0);
+        x.set(2, 2, 55);
+        due.is("555 times 9 / 100, twice: not 556", x.thrown(3, 1), 8);
+        x.set(2, 1, 2);
+        x.set(2, 2, 0);
         x.mark(0, 0, 15);
         x.mark(0, 1, 12);
         x.mark(0, 2, 9);
@@ -244,6 +277,35 @@ public final class ThoughtTest {
         x.set(0, 1, 9);
         due.is("herbs that fade", x.halved(), 79);
         due.is("told(0, 2)", x.told(0, 2), 99999);
+        OldPot y = new OldPot();
+        y.thing(0, 2);
+        y.set(0, 2, 449);
+        y.pot(0, 999);
+        y.pot(1, 4);
+        due.is("just 200 days", y.halved(), 200);
+        y.pot(1, 3);
+        y.set(0, 1, 1);
+        y.set(0, 2, 600);
+        due.is("201 days", y.halved(), Due.NONE);
+        OldPot z = new OldPot();
+        z.thing(5, 9);
+        z.set(0, 2, 9);
+        due.is("none to be tasted", z.halved(), 0);
+        z.set(0, 2, 40);
+        due.is("salt", z.halved(), halvedSalt(40));
+    }
+
+    private static int halvedSalt(int amount) {
+        int a = amount;
+        int b = amount / 2;
+        for (int n = 0; n <= 200; n++) {
+            if (a * 9 / 100 == b * 9 / 100) {
+                return n;
+            }
+            a -= a * 20 / 100;
+            b -= b * 20 / 100;
+        }
+        return Due.NONE;
     }
 
     private static void differs() {
