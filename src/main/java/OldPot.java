@@ -659,7 +659,7 @@ public final class OldPot {
     /** Whether a kind is another one, or stands under it. */
     private static boolean isOfKind(int kind, int other) {
         int at = kind;
-        for (int step = 0; step < KINDS && at >= 0; step++) {
+        for (int step = 0; step < KINDS && within(at, 0, KINDS - 1); step++) {
             if (at == other) {
                 return true;
             }

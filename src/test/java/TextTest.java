@@ -58,6 +58,13 @@ public final class TextTest {
         due.is("count(6)", x.count(6), 6);
         due.is("lot d", x.text(), 0);
         due.is("trim(0)", x.trim(0), 0);
+        x.feed(0x6c6f7420, 0x64646464, 0x64646464);
+        x.trim(5);
+        due.is("lot d, cut off from more letters", x.text(), 1);
+        x.feed(0x6c6f7420, 0x31323334, 0x35363738);
+        x.trim(7);
+        due.is("lot 123, cut off from more digits", x.text(), 2);
+        due.is("lot()", x.lot(), 123);
     }
 
     private static void textNumbers() {
@@ -243,6 +250,8 @@ public final class TextTest {
         due.is("its numbers", x.textTold(0, 1), 46);
         due.is("96 bytes that end too soon", Due.text(x, sum + "+"), -196);
         due.is("96 bytes that end with a blank", Due.text(x, sum + " "), 1);
+        due.is("96 bytes that end with a digit", Due.text(new OldPot(), " " + sum), 0);
+        due.is("96 bytes that end with a letter", Due.text(new OldPot(), " " + sum.substring(0, 94) + "t"), 0);
         String deep = "lot 1|1&1<1+1*(1|1&1<1+1*(1|1&1<1+1*(1|1&1<1+1*(1|1&1<1+1*(1|1&1<1+1*(1|1&1<1+1*(1|0))))))))";
         due.is("one ) too many", Due.text(x, deep), -191);
         due.is("the deepest", Due.text(x, deep.substring(0, deep.length() - 1)), 2);
