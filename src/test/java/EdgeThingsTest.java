@@ -269,6 +269,7 @@ public final class EdgeThingsTest {
             set(0, 2, 90000); toss(0, 9998) => 99998; toss(0, 1) => 99999; toss(0, 1) => 99999; toss(0, 9999) => 99999
             toss(0, 10000) => BAD; told(0, 2) => 99999; set(0, 2, 99998); toss(0, 2) => 99999; set(0, 2, 90000)
             toss(0, 9999) => 99999; set(0, 2, 90001); toss(0, 9999) => 99999; toss(6, 1) => BAD; toss(5, 0) => BAD
+            set(0, 2, 0); toss(0, 1) => 1; told(0, 3) => 3
             """);
     }
 
